@@ -558,6 +558,7 @@ public final class NineLaws {
         private final int[] sizes = new int[ALL];
         private final int[] standing = new int[ALL];
         private final int[] oldest = new int[ALL];
+        private final int[] firstBehind = new int[ALL];
 
         Rows() {
             for (int length = 1; length <= MOST_LENGTH; length++) {
@@ -570,15 +571,16 @@ public final class NineLaws {
             int end = bareOf(length + 1);
             for (int wall = bare; wall < end && wall < ALL; wall++) {
                 lengths[wall] = length;
-                if (wall == bare) {
-                    oldest[wall] = NO_LAW;
-                    continue;
+                oldest[wall] = NO_LAW;
+                if (wall > bare) {
+                    int newest = (wall - bare - 1) % 8;
+                    int before = bare + (wall - bare - 1) / 8;
+                    sizes[wall] = sizeOf(before) + 1;
+                    standing[wall] = standingOn(before) | 1 << newest;
+                    oldest[wall] = before == bare ? newest : oldestOn(before);
                 }
-                int newest = (wall - bare - 1) % 8;
-                int before = bare + (wall - bare - 1) / 8;
-                sizes[wall] = sizeOf(before) + 1;
-                standing[wall] = standingOn(before) | 1 << newest;
-                oldest[wall] = before == bare ? newest : oldestOn(before);
+                int fallen = sizes[wall] == length ? oldest[wall] + 1 << 3 * (length - 1) : 0;
+                firstBehind[wall] = bare + (wall - bare - fallen) * 8 + 1;
             }
         }
 
@@ -640,16 +642,8 @@ public final class NineLaws {
 
         /** The wall behind a LAW's making (NO_LAW: the same). */
         int behind(int wall, int law) {
-            if (law < 0 || law >= NO_LAW) {
-                return wall;
-            }
-            int length = lengthOf(wall);
-            int bare = bareOf(length);
-            int row = wall - bare;
-            if (sizeOf(wall) == length) {
-                row -= oldestOn(wall) + 1 << 3 * (length - 1);
-            }
-            return bare + row * 8 + law + 1;
+            boolean made = law >= 0 && law < NO_LAW && wall >= 0 && wall < ALL;
+            return made ? firstBehind[wall] + law : wall;
         }
     }
 
@@ -1116,7 +1110,7 @@ public final class NineLaws {
             facts[3] = size;
             facts[4] = rows.timesOn(wall, law);
             facts[5] = (standing >> law & 1) == 1 && (needs[law] & ~standing) == 0 ? 1 : 0;
-            facts[6] = rows.isFull(wall) ? 1 : 0;
+            facts[6] = size == rows.lengthOf(wall) ? 1 : 0;
             facts[7] = place;
             facts[8] = rows.oldestOn(wall);
             facts[9] = size == 0 ? NO_LAW : rows.lawOn(wall, size - 1);
@@ -1171,6 +1165,10 @@ public final class NineLaws {
 
         int placeAfter(int place) {
             return place + 1 < turnCount ? place + 1 : 0;
+        }
+
+        int placeAfterDays(int place, int days) {
+            return turnCount < 1 ? 0 : (place + days) % turnCount;
         }
 
         boolean quietOn(int wall) {
@@ -1283,9 +1281,8 @@ public final class NineLaws {
         private final int[] sums = new int[PEOPLE];
         private int lookers;
         private int askedEdition = NONE;
-        private int askedWall;
-        private int askedPlace;
-        private int askedDays;
+        private int askedLength;
+        private int askedEndPlace;
 
         Outlook(Rows rows, Town town, Makers makers) {
             this.rows = rows;
@@ -1302,27 +1299,33 @@ public final class NineLaws {
         }
 
         void solve(State from, int days, int newLookers, int edition) {
-            boolean sameTown = askedEdition == edition && askedWall == from.wall && askedPlace == from.place;
-            if (sameTown && askedDays == days && lookers == newLookers) {
+            recall(rows.lengthOf(from.wall), makers.placeAfterDays(from.place, days), newLookers, edition);
+            int pick = pickOn(from.wall, from.place, days);
+            int next = rows.behind(from.wall, pick);
+            look(next, makers.placeAfter(from.place), days - 1);
+            for (int sort = 0; sort < PEOPLE; sort++) {
+                sums[sort] = totalOf(next, days - 1, sort);
+            }
+            tell(pick, next, days);
+        }
+
+        /** What was reckoned holds on for questions whose days end on the same PLACE: wall and days left say all. */
+        private void recall(int length, int endPlace, int newLookers, int edition) {
+            boolean sameTown = askedEdition == edition && askedLength == length;
+            if (sameTown && askedEndPlace == endPlace && lookers == newLookers) {
                 return;
             }
             askedEdition = edition;
-            askedWall = from.wall;
-            askedPlace = from.place;
-            askedDays = days;
+            askedLength = length;
+            askedEndPlace = endPlace;
             lookers = newLookers;
-            int length = rows.lengthOf(from.wall);
             Arrays.fill(picks, Rows.bareOf(length) * MOST_LOOK, Rows.bareOf(length + 1) * MOST_LOOK, UNKNOWN);
-            look(from.wall, from.place, days);
-            tellFrom(from.wall, days);
         }
 
-        private void tellFrom(int startWall, int days) {
-            for (int sort = 0; sort < PEOPLE; sort++) {
-                sums[sort] = totalOf(startWall, days, sort);
-            }
-            int wall = startWall;
-            for (int day = 0; day < days && day < MOST_LOOK; day++) {
+        private void tell(int firstPick, int secondWall, int days) {
+            made[0] = firstPick;
+            int wall = secondWall;
+            for (int day = 1; day < days && day < MOST_LOOK; day++) {
                 int cell = cellOf(wall, days - day);
                 made[day] = cell < 0 || cell >= picks.length ? NO_LAW : picks[cell];
                 wall = rows.behind(wall, made[day]);
@@ -1330,7 +1333,7 @@ public final class NineLaws {
         }
 
         private static int cellOf(int wall, int left) {
-            return left < 1 || left > MOST_LOOK ? NONE : wall * MOST_LOOK + left - 1;
+            return left < 0 || left >= MOST_LOOK ? NONE : wall * MOST_LOOK + left;
         }
 
         private int totalOf(int wall, int left, int sort) {
@@ -1338,43 +1341,44 @@ public final class NineLaws {
             return cell < 0 || cell >= totals.length ? 0 : totals[cell];
         }
 
-        /** Goes as deep as days are left; the place is that of the day, so wall and days left say all. */
+        /** Reckons what the day that ends with this wall and the days left behind it are worth together. */
         private void look(int wall, int place, int left) {
             int cell = cellOf(wall, left);
             if (cell < 0 || cell >= picks.length || picks[cell] != UNKNOWN) {
                 return;
             }
-            int maker = makers.onTurn(place);
-            boolean looks = isPerson(maker) && (lookers >> maker & 1) == 1;
-            int pick = looks ? bestPick(wall, place, left) : makers.choice(maker, wall);
+            int pick = left == 0 ? NO_LAW : pickOn(wall, place, left);
             int next = rows.behind(wall, pick);
             look(next, makers.placeAfter(place), left - 1);
             for (int sort = 0; sort < PEOPLE; sort++) {
                 int total = cell * PEOPLE + sort;
                 if (total < totals.length) {
-                    totals[total] = town.worthOf(next, sort) + totalOf(next, left - 1, sort);
+                    totals[total] = town.worthOf(wall, sort) + totalOf(next, left - 1, sort);
                 }
             }
             picks[cell] = pick;
         }
 
-        private int bestPick(int wall, int place, int left) {
+        /** What is made today, so many days being left with this one. */
+        private int pickOn(int wall, int place, int left) {
             int maker = makers.onTurn(place);
+            if (!isPerson(maker) || (lookers >> maker & 1) == 0) {
+                return makers.choice(maker, wall);
+            }
             int nextPlace = makers.placeAfter(place);
             int canMake = town.mayOf(wall, maker);
             look(wall, nextPlace, left - 1);
             int pick = NO_LAW;
-            int most = town.worthOf(wall, maker) + totalOf(wall, left - 1, maker);
+            int most = totalOf(wall, left - 1, maker);
             for (int law = 0; law < MOST_LAWS; law++) {
-                if ((canMake >> law & 1) == 0) {
-                    continue;
-                }
-                int next = rows.behind(wall, law);
-                look(next, nextPlace, left - 1);
-                int total = town.worthOf(next, maker) + totalOf(next, left - 1, maker);
-                if (total > most) {
-                    pick = law;
-                    most = total;
+                if ((canMake >> law & 1) == 1) {
+                    int next = rows.behind(wall, law);
+                    look(next, nextPlace, left - 1);
+                    int total = totalOf(next, left - 1, maker);
+                    if (total > most) {
+                        pick = law;
+                        most = total;
+                    }
                 }
             }
             return pick;

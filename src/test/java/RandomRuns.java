@@ -376,6 +376,7 @@ public final class RandomRuns {
             int of = what < 0 ? maker : 10 + what;
             same("all(" + days + ", " + of + ")", town.all(days, of), model.all(days, of));
         }
+        askOnTheWay(maker);
         for (int what = -1; what < 4; what++) {
             same("soon(" + what + ")", town.soon(what), model.soon(what));
         }
@@ -425,6 +426,33 @@ public final class RandomRuns {
             }
             for (int what = -1; what < 9; what++) {
                 same("soon(" + what + ")", town.soon(what), model.soon(what));
+            }
+        }
+    }
+
+    /** The same question again, a day on, back and with other days: what is remembered must not lead astray. */
+    private void askOnTheWay(int maker) {
+        boolean all = random.nextBoolean();
+        for (int i = 0; i < 5; i++) {
+            int days = 1 + random.nextInt(4);
+            int day = random.nextInt(days);
+            if (all) {
+                int what = random.nextBoolean() ? maker : 10 + day;
+                same("all(" + days + ", " + what + ")", town.all(days, what), model.all(days, what));
+            } else {
+                int what = random.nextInt(days + 1) - 1;
+                same("best(" + maker + ", " + days + ", " + what + ")", town.best(maker, days, what),
+                        model.best(maker, days, what));
+            }
+            int kind = random.nextInt(8);
+            if (kind == 0) {
+                same("keep()", town.keep(), model.keep());
+            } else if (kind == 1) {
+                same("undo()", bit(town.undo()), bit(model.undo()));
+            } else if (kind == 2) {
+                kind();
+            } else if (kind < 6) {
+                make();
             }
         }
     }
