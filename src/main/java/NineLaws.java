@@ -579,7 +579,7 @@ public final class NineLaws {
                     standing[wall] = standingOn(before) | 1 << newest;
                     oldest[wall] = before == bare ? newest : oldestOn(before);
                 }
-                int fallen = sizes[wall] == length ? oldest[wall] + 1 << 3 * (length - 1) : 0;
+                int fallen = sizes[wall] == length ? (oldest[wall] + 1) << (3 * (length - 1)) : 0;
                 firstBehind[wall] = bare + (wall - bare - fallen) * 8 + 1;
             }
         }
@@ -1385,19 +1385,21 @@ public final class NineLaws {
         }
     }
 
-    /** HOW SOON: walls in the order in which they are come to, so that the first QUIET one has the least row of LAWS. */
+    /**
+     * HOW SOON: a cell is a wall and a PLACE. Cells wait in the order in which they are come to, so that the first
+     * QUIET one has the least row of LAWS of those that are soonest.
+     */
     private static final class Calm {
         private static final int MOST = Rows.ALL * MOST_TURNS;
 
         private final Rows rows;
         private final Town town;
         private final Makers makers;
-        private final boolean[] seen = new boolean[MOST];
-        private final int[] cells = new int[MOST];
+        private final int[] waiting = new int[MOST];
         private final int[] before = new int[MOST];
         private final int[] made = new int[MOST];
         private int found;
-        private int first;
+        private int quietCell;
         private int days;
         private int askedEdition = NONE;
         private int askedWall;
@@ -1416,43 +1418,48 @@ public final class NineLaws {
             askedEdition = edition;
             askedWall = from.wall;
             askedPlace = from.place;
-            Arrays.fill(seen, false);
+            int length = rows.lengthOf(from.wall);
+            Arrays.fill(before, Rows.bareOf(length) * MOST_TURNS, Rows.bareOf(length + 1) * MOST_TURNS, UNKNOWN);
             found = 0;
-            first = NONE;
-            put(from.wall, from.place, NONE, NO_LAW);
-            for (int i = 0; i < found && i < MOST && first < 0; i++) {
-                int wall = cells[i] / MOST_TURNS;
-                int place = cells[i] % MOST_TURNS;
+            quietCell = NONE;
+            comeTo(from.wall, from.place, NONE, NO_LAW);
+            for (int i = 0; i < found && i < MOST && quietCell < 0; i++) {
+                int wall = waiting[i] / MOST_TURNS;
+                int place = waiting[i] % MOST_TURNS;
                 int canMake = town.mayOf(wall, makers.onTurn(place));
                 int nextPlace = makers.placeAfter(place);
-                put(wall, nextPlace, i, NO_LAW);
+                comeTo(wall, nextPlace, waiting[i], NO_LAW);
                 for (int law = 0; law < MOST_LAWS; law++) {
                     if ((canMake >> law & 1) == 1) {
-                        put(rows.behind(wall, law), nextPlace, i, law);
+                        comeTo(rows.behind(wall, law), nextPlace, waiting[i], law);
                     }
                 }
             }
-            days = first < 0 ? NONE : stepsTo(first);
+            days = stepsToQuiet();
         }
 
-        private void put(int wall, int place, int from, int law) {
+        private void comeTo(int wall, int place, int from, int law) {
             int cell = wall * MOST_TURNS + place;
-            if (first >= 0 || cell < 0 || cell >= MOST || seen[cell] || found < 0 || found >= MOST) {
+            if (quietCell >= 0 || cell < 0 || cell >= MOST || before[cell] != UNKNOWN) {
                 return;
             }
-            seen[cell] = true;
-            cells[found] = cell;
-            before[found] = from;
-            made[found] = law;
+            before[cell] = from;
+            made[cell] = law;
             if (makers.quietOn(wall)) {
-                first = found;
+                quietCell = cell;
             }
-            found++;
+            if (found >= 0 && found < MOST) {
+                waiting[found] = cell;
+                found++;
+            }
         }
 
-        private int stepsTo(int end) {
-            int steps = 0;
-            for (int i = end; i > 0 && i < MOST && steps < MOST; i = before[i]) {
+        /** NONE: there is no QUIET cell. */
+        private int stepsToQuiet() {
+            int steps = NONE;
+            int cell = quietCell;
+            for (int k = 0; k < MOST && cell >= 0 && cell < MOST; k++) {
+                cell = before[cell];
                 steps++;
             }
             return steps;
@@ -1463,11 +1470,11 @@ public final class NineLaws {
             if (day < 0 || day >= days) {
                 return NONE;
             }
-            int i = first;
-            for (int later = days - 1; later > day && i > 0 && i < MOST; later--) {
-                i = before[i];
+            int cell = quietCell;
+            for (int later = days - 1; later > day && cell >= 0 && cell < MOST; later--) {
+                cell = before[cell];
             }
-            return i >= 0 && i < MOST ? made[i] : NONE;
+            return cell >= 0 && cell < MOST ? made[cell] : NONE;
         }
     }
 

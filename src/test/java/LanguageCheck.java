@@ -59,7 +59,7 @@ public final class LanguageCheck {
         String[] forbidden = {"\\bthrows?\\b", "\\btry\\b", "\\bcatch\\b", "\\bsynchronized\\b", "\\bassert\\b", "->",
             "::", "@", "\\bpackage\\b", "Exact\\b", "\\bvolatile\\b", "\\bnative\\b", "\\bThread\\b", "\\bSystem\\.(?!arraycopy)",
             "\\bObject\\b", "\\bvar\\b", "\\bString\\.format\\b", "\\bRandom\\b", "\\bhashCode\\b", "\\btoString\\b",
-            "\\bnull\\b", "\\bextends\\b", "\\bwhile \\(true"};
+            "\\bnull\\b", "\\bboolean\\[\\]", "\\bextends\\b", "\\bwhile \\(true"};
         for (String word : forbidden) {
             if (Pattern.compile(word).matcher(bare).find()) {
                 say("the source has " + word);
