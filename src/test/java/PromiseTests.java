@@ -41,6 +41,7 @@ public final class PromiseTests {
         seedAndDraw();
         book();
         keepAndUndo();
+        askedAgain();
         check();
         count();
         everyCallAnswersAnything();
@@ -1081,6 +1082,11 @@ public final class PromiseTests {
         int[] twenty = new int[40];
         same("twenty", fits(x, 0, twenty), 5);
         same("no laws", new NineLaws().fits(0, 0), 0);
+        feedBytes(x, new int[60]);
+        same("21 of 30", x.fits(21, 0), -1);
+        same("the tape stays", x.count(4), 60);
+        same("20 of 30", x.fits(20, 0), 5);
+        same("the whole tape is empty", x.count(4), 0);
     }
 
     // ---- promises 26 to 32 ----
@@ -1213,8 +1219,59 @@ public final class PromiseTests {
         same("and is told again", x.count(8), 4);
     }
 
+    /** The same question of the same row and place, when what it rests on has changed in between. */
+    private static void askedAgain() {
+        promise = "16 best, 17 all, 20 soon, asked again";
+        NineLaws x = town("v5(l=p);v0-1(1=1);m1(1=1)", 0, 0, 0, 0);
+        x.length(1);
+        same("all: maker 0", x.all(1, 10), 0);
+        rota(x, 1);
+        same("all: another rota", x.all(1, 10), 1);
+        text(x, "v5(l=p+1);v0-1(1=1);m1(1=1)");
+        same("all: another text", x.all(1, 10), 2);
+        same("best: as all", x.best(1, 1, 0), 2);
+        same("best: another maker, by kinds", x.best(0, 1, 0), 8);
+        x.kind(1, 4, 3);
+        same("best: another kind", x.best(0, 1, 0), 3);
+        same("all: whatever the kind", x.all(1, 10), 2);
+        x.length(2);
+        same("all: another length", x.all(2, 0), -2 - 1);
+        x.make(2);
+        same("all: another row", x.all(1, 10), 2);
+        same("all: its worth", x.all(1, 1), 10);
+
+        NineLaws y = town("m1(p=0&n=0)", 0, 0);
+        rota(y, 2, 0);
+        same("soon: 2's turn", y.soon(-1), 2);
+        y.make(-1);
+        same("soon: 0's turn", y.soon(-1), 1);
+        text(y, "m1(p=0&n<2)");
+        same("soon: another text", y.soon(-1), 3);
+        y.make(1);
+        same("soon: another row", y.soon(-1), 2);
+        rota(y, 0);
+        same("soon: another rota", y.soon(-1), 1);
+        y.law(0, 0, 0, 1);
+        y.length(2);
+        same("soon: another law", y.soon(-1), 1);
+        same("soon: by the new law", y.soon(0), 2);
+        y.length(3);
+        same("soon: another length", y.soon(-1), 1);
+    }
+
     private static void check() {
         promise = "31 check";
+        NineLaws late = town("m1(1=1)", 0);
+        for (int i = 0; i < 3; i++) {
+            late.draw(100);
+        }
+        late.make(0);
+        same("a day above 255", check(late, 300, 0, 0), -1);
+        late.keep();
+        late.make(0);
+        late.undo();
+        same("what was undone is not right", check(late, 300, 0, 0, 301, 0, 0), 3);
+        same("zeros are not right where none is", check(new NineLaws(), 0, 0, 0), 0);
         NineLaws x = town("m1(1=1)", 0, 0, 0);
         same("an empty book", x.check(0), -1);
         same("not so many", x.check(1), -2);
