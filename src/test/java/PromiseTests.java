@@ -1,13 +1,5 @@
-import java.util.ArrayList;
-import java.util.List;
-
 /** At least one test for each promise, worked out by hand from the document. */
-public final class PromiseTests {
-    private static final int WRONG = -1000000;
-    private static int checks;
-    private static int wrong;
-    private static String promise = "";
-
+public final class PromiseTests extends Checks {
     private PromiseTests() { }
 
     public static void main(String[] args) {
@@ -45,102 +37,13 @@ public final class PromiseTests {
         check();
         count();
         everyCallAnswersAnything();
-        System.out.println(checks + " checks by hand, " + wrong + " wrong");
-        if (wrong != 0) {
-            System.exit(1);
-        }
-    }
-
-    // ---- helpers ----
-
-    private static void same(String what, long answered, long due) {
-        checks++;
-        if (answered != due) {
-            wrong++;
-            System.out.println(promise + ": " + what + " answered " + answered + ", due is " + due);
-        }
-    }
-
-    private static void same(String what, boolean answered, boolean due) {
-        same(what, answered ? 1 : 0, due ? 1 : 0);
-    }
-
-    private static int four(int[] bytes, int from) {
-        int value = 0;
-        for (int i = from; i < from + 4; i++) {
-            value = value << 8 | (i < bytes.length ? bytes[i] & 255 : 32);
-        }
-        return value;
-    }
-
-    private static void feedBytes(NineLaws x, int... bytes) {
-        for (int i = 0; i < bytes.length; i += 20) {
-            x.feed(four(bytes, i), four(bytes, i + 4), four(bytes, i + 8), four(bytes, i + 12), four(bytes, i + 16));
-        }
-    }
-
-    private static int text(NineLaws x, String signs) {
-        feedBytes(x, signs.chars().toArray());
-        return x.text(signs.length());
-    }
-
-    private static boolean rota(NineLaws x, int... makers) {
-        feedBytes(x, makers);
-        return x.rota(makers.length);
-    }
-
-    private static int fits(NineLaws x, int what, int... told) {
-        feedBytes(x, told);
-        return x.fits(told.length / 2, what);
-    }
-
-    private static int check(NineLaws x, int... numbers) {
-        for (int i = 0; i < numbers.length; i += 5) {
-            int[] five = new int[5];
-            for (int k = 0; k < 5 && i + k < numbers.length; k++) {
-                five[k] = numbers[i + k];
-            }
-            x.feed(five[0], five[1], five[2], five[3], five[4]);
-        }
-        return x.check(numbers.length / 3);
-    }
-
-    /** A town with LAWS of these tags that need, bar and shut out nothing. */
-    private static NineLaws town(String text, int... tags) {
-        NineLaws x = new NineLaws();
-        for (int tag : tags) {
-            x.law(tag, 0, 0, 0);
-        }
-        text(x, text);
-        return x;
-    }
-
-    private static void makeAll(NineLaws x, int... laws) {
-        for (int law : laws) {
-            x.make(law);
-        }
-    }
-
-    private static String row(NineLaws x) {
-        StringBuilder all = new StringBuilder();
-        for (int i = 0; i < 4 && x.at(i) != NineLaws.NONE; i++) {
-            all.append(x.at(i));
-        }
-        return all.toString();
-    }
-
-    private static void sameRow(NineLaws x, String due) {
-        checks++;
-        if (!row(x).equals(due)) {
-            wrong++;
-            System.out.println(promise + ": the row is " + row(x) + ", due is " + due);
-        }
+        finish("PromiseTests");
     }
 
     // ---- promises 1 to 7 ----
 
     private static void newObject() {
-        promise = "1 new object";
+        about("1 new object");
         NineLaws x = new NineLaws();
         same("NONE", NineLaws.NONE, -1);
         same("laws", x.count(0), 0);
@@ -164,7 +67,7 @@ public final class PromiseTests {
     }
 
     private static void law() {
-        promise = "2 law";
+        about("2 law");
         NineLaws x = new NineLaws();
         int[][] refused = {{-1, 0, 0, 0}, {10, 0, 0, 0}, {0, -1, 0, 0}, {0, 256, 0, 0}, {0, 0, -1, 0},
             {0, 0, 256, 0}, {0, 0, 0, -1}, {0, 0, 0, 16}};
@@ -194,7 +97,7 @@ public final class PromiseTests {
     }
 
     private static void length() {
-        promise = "3 length";
+        about("3 length");
         NineLaws x = town("m1(1=1)", 1, 2);
         same("0", x.length(0), false);
         same("5", x.length(5), false);
@@ -221,7 +124,7 @@ public final class PromiseTests {
     }
 
     private static void rota() {
-        promise = "4 rota";
+        about("4 rota");
         NineLaws x = town("m1(1=1)", 1);
         same("no tape", x.rota(1), false);
         feedBytes(x, 3, 2, 1, 0, 9);
@@ -257,7 +160,7 @@ public final class PromiseTests {
     }
 
     private static void kind() {
-        promise = "5 kind";
+        about("5 kind");
         NineLaws x = town("v1(1=1);m1(1=1)", 1, 2);
         same("maker -1", x.kind(-1, 0, 0), false);
         same("maker 4", x.kind(4, 0, 0), false);
@@ -279,7 +182,7 @@ public final class PromiseTests {
     }
 
     private static void feed() {
-        promise = "6 feed";
+        about("6 feed");
         NineLaws x = new NineLaws();
         for (int i = 1; i <= 11; i++) {
             same("has", x.feed(0, 0, 0, 0, 0), 20 * i);
@@ -300,7 +203,7 @@ public final class PromiseTests {
     }
 
     private static void text() {
-        promise = "7 text";
+        about("7 text");
         NineLaws x = town("v5(1=1);m1(1=1)", 1);
         same("clauses", x.count(3), 2);
         same("0", x.text(0), -1);
@@ -341,7 +244,7 @@ public final class PromiseTests {
     }
 
     private static void faults() {
-        promise = "7 text, FAULTS";
+        about("7 text, FAULTS");
         fault(" ", 1, 0);
         fault("V", 1, 0);
         fault(";", 1, 0);
@@ -445,7 +348,7 @@ public final class PromiseTests {
     }
 
     private static void letters() {
-        promise = "12 worth, letters";
+        about("12 worth, letters");
         same("l", value("v10+l(i=1)"), 11);
         same("p", value("v10+p(i=1)"), 12);
         same("k", value("v10+k(i=1)"), 14);
@@ -481,13 +384,8 @@ public final class PromiseTests {
         same("h where a need lacks", x.worth(0), 3);
     }
 
-    private static int mayBy(NineLaws x, String text) {
-        text(x, text);
-        return x.may(1);
-    }
-
     private static void reckoning() {
-        promise = "12 worth, reckoning";
+        about("12 worth, reckoning");
         same("first that holds", value("v1(i=9);v2(i=1);v3(i=1)"), 2);
         same("none holds", value("v1(i=9)"), 0);
         same("no v", value("m1(1=1)"), 0);
@@ -541,7 +439,7 @@ public final class PromiseTests {
     // ---- promises 8 to 13 ----
 
     private static void may() {
-        promise = "8 may";
+        about("8 may");
         NineLaws x = new NineLaws();
         x.law(1, 0, 2, 0);
         x.law(2, 8, 1, 0);
@@ -581,7 +479,7 @@ public final class PromiseTests {
     }
 
     private static void make() {
-        promise = "9 make";
+        about("9 make");
         NineLaws x = town("m1(l<2)", 1, 2, 3);
         rota(x, 0, 1);
         same("no such law", x.make(3), -1);
@@ -614,7 +512,7 @@ public final class PromiseTests {
     }
 
     private static void at() {
-        promise = "10 at";
+        about("10 at");
         NineLaws x = town("m1(1=1)", 1, 2, 3);
         same("empty", x.at(0), -1);
         x.length(4);
@@ -629,7 +527,7 @@ public final class PromiseTests {
     }
 
     private static void holding() {
-        promise = "11 holding";
+        about("11 holding");
         NineLaws x = new NineLaws();
         x.law(0, 2, 0, 0);
         x.law(0, 4, 0, 0);
@@ -649,7 +547,7 @@ public final class PromiseTests {
     }
 
     private static void worth() {
-        promise = "12 worth";
+        about("12 worth");
         NineLaws x = town("vk*p-l(1=1);m1(1=1)", 3, 5);
         same("empty", x.worth(0), 0);
         same("-1", x.worth(-1), WRONG);
@@ -664,7 +562,7 @@ public final class PromiseTests {
     }
 
     private static void would() {
-        promise = "13 would";
+        about("13 would");
         NineLaws x = town("vk-4(1=1);m1(!l=3)", 4, 5, 5, 9, 3);
         same("-1", x.would(-1), -1);
         same("4", x.would(4), -1);
@@ -727,7 +625,7 @@ public final class PromiseTests {
     // ---- promises 14 and 15 ----
 
     private static void run() {
-        promise = "14 run";
+        about("14 run");
         NineLaws x = town("vk-p(1=1);m1(1=1)", 1, 4, 9);
         rota(x, 0, 1);
         x.kind(0, 4, 1);
@@ -759,7 +657,7 @@ public final class PromiseTests {
     }
 
     private static void mean() {
-        promise = "15 mean";
+        about("15 mean");
         NineLaws x = town("vk(1=1);m1(1=1)", 1, 2, 5);
         int[] wrongs = {-1, 2, 9, 14, 19, 24};
         for (int what : wrongs) {
@@ -795,7 +693,7 @@ public final class PromiseTests {
     // ---- promises 16 and 17 ----
 
     private static void best() {
-        promise = "16 best";
+        about("16 best");
         NineLaws x = town("v[k-p*2]*[f+1](1=1);m1(1=1)", 3, 6, 6);
         same("maker -1", x.best(-1, 1, -1), WRONG);
         same("maker 4", x.best(4, 1, -1), WRONG);
@@ -827,7 +725,7 @@ public final class PromiseTests {
     }
 
     private static void all() {
-        promise = "17 all";
+        about("17 all");
         NineLaws x = town("v5(l=p);v0-1(1=1);m1(1=1)", 0, 0, 0, 0);
         int[] wrongs = {-1, 4, 9, 13, 20};
         for (int what : wrongs) {
@@ -864,7 +762,7 @@ public final class PromiseTests {
     // ---- promises 18 to 22 ----
 
     private static void bestRow() {
-        promise = "18 bestRow";
+        about("18 bestRow");
         NineLaws x = town("vk*[i+1]*[1-p](1=1);m1(1=1)", 2, 7, 2);
         same("sort -2", x.bestRow(-2, -1), WRONG);
         same("sort 4", x.bestRow(4, -1), WRONG);
@@ -900,7 +798,7 @@ public final class PromiseTests {
     }
 
     private static void quiet() {
-        promise = "19 quiet";
+        about("19 quiet");
         NineLaws x = town("m1(p=1&n=0)", 1, 2);
         same("maker 0 may none", x.quiet(), true);
         rota(x, 0, 1);
@@ -913,7 +811,7 @@ public final class PromiseTests {
     }
 
     private static void soon() {
-        promise = "20 soon";
+        about("20 soon");
         NineLaws x = town("m1(n=0&l<2);m1(n=1&!y=0);m1(n=2&o=1&l=0);m1(n=3&!o=1)", 0, 0, 0);
         same("days", x.soon(-1), 1);
         same("row 0", x.soon(0), 0);
@@ -944,7 +842,7 @@ public final class PromiseTests {
     }
 
     private static void held() {
-        promise = "21 held";
+        about("21 held");
         NineLaws x = town("m1(1=1)", 0, 0, 0);
         same("a -1", x.held(-1, 0, 0), -1);
         same("b 3", x.held(0, 3, 0), -1);
@@ -972,7 +870,7 @@ public final class PromiseTests {
     }
 
     private static void number() {
-        promise = "22 number";
+        about("22 number");
         NineLaws x = town("v4-n+i*0(1=1);m1(1=1)", 0, 0, 0, 0);
         same("sort -1", x.number(-1, 0), WRONG);
         same("sort 4", x.number(4, 0), WRONG);
@@ -1006,7 +904,7 @@ public final class PromiseTests {
     // ---- promises 23 to 25 ----
 
     private static void deedAndLawful() {
-        promise = "23 deed, 24 lawful";
+        about("23 deed, 24 lawful");
         NineLaws x = new NineLaws();
         x.law(0, 2, 0, 0);
         x.law(0, 0, 0, 0);
@@ -1035,7 +933,7 @@ public final class PromiseTests {
     }
 
     private static void fits() {
-        promise = "25 fits";
+        about("25 fits");
         NineLaws x = new NineLaws();
         x.law(0, 0, 0, 0);
         x.law(0, 1, 0, 0);
@@ -1092,7 +990,7 @@ public final class PromiseTests {
     // ---- promises 26 to 32 ----
 
     private static void seedAndDraw() {
-        promise = "26 seed, 27 draw";
+        about("26 seed, 27 draw");
         NineLaws x = town("m1(1=1)", 0, 0, 0, 0);
         same("-1", x.seed(-1), false);
         same("65536", x.seed(65536), false);
@@ -1129,7 +1027,7 @@ public final class PromiseTests {
     }
 
     private static void book() {
-        promise = "28 book";
+        about("28 book");
         NineLaws x = town("m1(1=1)", 0, 0);
         rota(x, 2, 1);
         x.length(1);
@@ -1161,7 +1059,7 @@ public final class PromiseTests {
     }
 
     private static void keepAndUndo() {
-        promise = "29 keep, 30 undo";
+        about("29 keep, 30 undo");
         NineLaws x = town("m1(1=1)", 0, 0, 0);
         rota(x, 0, 1, 2);
         same("none was kept", x.undo(), false);
@@ -1221,7 +1119,7 @@ public final class PromiseTests {
 
     /** The same question of the same row and place, when what it rests on has changed in between. */
     private static void askedAgain() {
-        promise = "16 best, 17 all, 20 soon, asked again";
+        about("16 best, 17 all, 20 soon, asked again");
         NineLaws x = town("v5(l=p);v0-1(1=1);m1(1=1)", 0, 0, 0, 0);
         x.length(1);
         same("all: maker 0", x.all(1, 10), 0);
@@ -1260,7 +1158,7 @@ public final class PromiseTests {
     }
 
     private static void check() {
-        promise = "31 check";
+        about("31 check");
         NineLaws late = town("m1(1=1)", 0);
         for (int i = 0; i < 3; i++) {
             late.draw(100);
@@ -1300,7 +1198,7 @@ public final class PromiseTests {
     }
 
     private static void count() {
-        promise = "32 count";
+        about("32 count");
         NineLaws x = town("v1(1=1);m1(1=1)", 0, 0);
         rota(x, 3, 1);
         x.length(4);
@@ -1321,51 +1219,51 @@ public final class PromiseTests {
 
     /** No call throws, whatever it is given, in whatever state. */
     private static void everyCallAnswersAnything() {
-        promise = "all, wrong inputs";
+        about("all, wrong inputs");
         int[] odd = {Integer.MIN_VALUE, Integer.MIN_VALUE + 1, -65536, -2, -1, 0, 1, 3, 4, 8, 9, 13, 20, 31, 32, 100,
             256, 65536, 715827882, 1073741824, Integer.MAX_VALUE - 1, Integer.MAX_VALUE};
-        List<NineLaws> towns = new ArrayList<>();
-        towns.add(new NineLaws());
-        NineLaws full = town("v1/[l-2](1=1);m1(1=1)", 0, 1, 2, 3, 4, 5, 6, 7);
-        rota(full, 0, 1, 2, 3);
-        full.length(4);
-        towns.add(full);
-        for (NineLaws x : towns) {
-            for (int a : odd) {
-                for (int b : odd) {
-                    x.law(a, b, a, b);
-                    x.kind(a, b, a);
-                    x.run(a, b);
-                    x.best(a, b, a);
-                    x.best(b, a, b);
-                    x.all(a, b);
-                    x.bestRow(a, b);
-                    x.held(a, b, a);
-                    x.held(b, a, b);
-                    x.number(a, b);
-                    x.deed(a, b);
-                    x.feed(a, b, a, b, a);
-                    x.fits(a, b);
-                    x.book(a, b);
-                }
-                x.length(a);
-                x.feed(a, a, a, a, a);
-                x.rota(a);
-                x.text(a);
-                x.may(a);
-                x.make(a);
-                x.at(a);
-                x.worth(a);
-                x.would(a);
-                x.mean(a);
-                x.soon(a);
-                x.lawful(a);
-                x.seed(a);
-                x.draw(a);
-                x.check(a);
-                x.count(a);
-            }
+        for (int a : odd) {
+            NineLaws full = town("v1/[l-2](1=1);m1(1=1)", 0, 1, 2, 3, 4, 5, 6, 7);
+            rota(full, 0, 1, 2, 3);
+            full.length(4);
+            oddCalls(new NineLaws(), a, odd);
+            oddCalls(full, a, odd);
+            same("eight laws", full.count(0), 8);
         }
-        same("eight laws", full.count(0), 8);
+    }
+
+    private static void oddCalls(NineLaws x, int a, int[] odd) {
+        for (int b : odd) {
+            x.law(a, b, a, b);
+            x.kind(a, b, a);
+            x.run(a, b);
+            x.best(a, b, a);
+            x.best(b, a, b);
+            x.all(a, b);
+            x.bestRow(a, b);
+            x.held(a, b, a);
+            x.held(b, a, b);
+            x.number(a, b);
+            x.deed(a, b);
+            x.feed(a, b, a, b, a);
+            x.fits(a, b);
+            x.book(a, b);
+        }
+        x.length(a);
+        x.feed(a, a, a, a, a);
+        x.rota(a);
+        x.text(a);
+        x.may(a);
+        x.make(a);
+        x.at(a);
+        x.worth(a);
+        x.would(a);
+        x.mean(a);
+        x.soon(a);
+        x.lawful(a);
+        x.seed(a);
+        x.draw(a);
+        x.check(a);
+        x.count(a);
     }
 }
