@@ -6,7 +6,6 @@ public final class NineLaws {
 
     private static final int WRONG = -1000000;
     private static final int MINUS_TWO = -2;
-    private static final int UNKNOWN = -1000000000;
     private static final int NO_LAW = 8;
     private static final int MOST_LAWS = 8;
     private static final int MOST_LENGTH = 4;
@@ -489,6 +488,17 @@ public final class NineLaws {
         return number >= 0 && number <= most;
     }
 
+    // All towns of a run share one room: what is remembered of a wall stands as small numbers side by side in one long.
+
+    private static int slotOf(long packed, int slot, int bits) {
+        return (int) (packed >>> slot * bits) & (1 << bits) - 1;
+    }
+
+    /** Only for a slot that is 0 yet. */
+    private static long withSlot(long packed, int slot, int bits, int number) {
+        return packed | (long) number << slot * bits;
+    }
+
     /** All that is KEPT and UNDONE. */
     private static final class State {
         private int wall = Rows.bareOf(3);
@@ -554,10 +564,12 @@ public final class NineLaws {
         private static final int ALL = 5348;
         private static final int[] BARE = {0, 0, 9, 82, 667, 5348};
 
-        private final int[] lengths = new int[ALL];
-        private final int[] sizes = new int[ALL];
-        private final int[] standing = new int[ALL];
-        private final int[] oldest = new int[ALL];
+        private static final int OLDEST_SHIFT = 8;
+        private static final int SIZE_SHIFT = 12;
+        private static final int LENGTH_SHIFT = 16;
+
+        /** Of each wall: which LAWS stand, the oldest, how many stand, the LENGTH. */
+        private final int[] looks = new int[ALL];
         private final int[] firstBehind = new int[ALL];
 
         Rows() {
@@ -570,16 +582,18 @@ public final class NineLaws {
             int bare = bareOf(length);
             int end = bareOf(length + 1);
             for (int wall = bare; wall < end && wall < ALL; wall++) {
-                lengths[wall] = length;
-                oldest[wall] = NO_LAW;
+                int size = 0;
+                int standing = 0;
+                int oldest = NO_LAW;
                 if (wall > bare) {
                     int newest = (wall - bare - 1) % 8;
                     int before = bare + (wall - bare - 1) / 8;
-                    sizes[wall] = sizeOf(before) + 1;
-                    standing[wall] = standingOn(before) | 1 << newest;
-                    oldest[wall] = before == bare ? newest : oldestOn(before);
+                    size = sizeOf(before) + 1;
+                    standing = standingOn(before) | 1 << newest;
+                    oldest = before == bare ? newest : oldestOn(before);
                 }
-                int fallen = sizes[wall] == length ? (oldest[wall] + 1) << (3 * (length - 1)) : 0;
+                looks[wall] = standing | oldest << OLDEST_SHIFT | size << SIZE_SHIFT | length << LENGTH_SHIFT;
+                int fallen = size == length ? (oldest + 1) << (3 * (length - 1)) : 0;
                 firstBehind[wall] = bare + (wall - bare - fallen) * 8 + 1;
             }
         }
@@ -599,19 +613,19 @@ public final class NineLaws {
         }
 
         int lengthOf(int wall) {
-            return wall < 0 || wall >= ALL ? 1 : lengths[wall];
+            return wall < 0 || wall >= ALL ? 1 : looks[wall] >> LENGTH_SHIFT;
         }
 
         int sizeOf(int wall) {
-            return wall < 0 || wall >= ALL ? 0 : sizes[wall];
+            return wall < 0 || wall >= ALL ? 0 : looks[wall] >> SIZE_SHIFT & 15;
         }
 
         int standingOn(int wall) {
-            return wall < 0 || wall >= ALL ? 0 : standing[wall];
+            return wall < 0 || wall >= ALL ? 0 : looks[wall] & 255;
         }
 
         int oldestOn(int wall) {
-            return wall < 0 || wall >= ALL ? NO_LAW : oldest[wall];
+            return wall < 0 || wall >= ALL ? NO_LAW : looks[wall] >> OLDEST_SHIFT & 15;
         }
 
         boolean isFull(int wall) {
@@ -978,15 +992,19 @@ public final class NineLaws {
     private static final class Town {
         private final Rows rows;
         private final LawText lawText;
+        private static final int BITS = 16;
+        private static final int WORTH_SHIFT = 1000;
+
         private final int[] tags = new int[MOST_LAWS];
         private final int[] needs = new int[MOST_LAWS];
         private final int[] bars = new int[MOST_LAWS];
         private final int[] shuts = new int[MOST_LAWS];
         private final int[] facts = new int[11];
-        private final int[] worths = new int[Rows.ALL * PEOPLE];
-        private final int[] mays = new int[Rows.ALL * PEOPLE];
+        /** A slot for each SORT or MAKER; in it 0 as long as it is not reckoned. */
+        private final long[] worths = new long[Rows.ALL];
+        private final long[] mays = new long[Rows.ALL];
         private int laws;
-        private boolean stale = true;
+        private boolean stale;
 
         Town(Rows rows, LawText lawText) {
             this.rows = rows;
@@ -1024,8 +1042,8 @@ public final class NineLaws {
 
         private void freshen() {
             if (stale) {
-                Arrays.fill(worths, UNKNOWN);
-                Arrays.fill(mays, UNKNOWN);
+                Arrays.fill(worths, 0);
+                Arrays.fill(mays, 0);
                 stale = false;
             }
         }
@@ -1042,21 +1060,22 @@ public final class NineLaws {
         }
 
         int worthOf(int wall, int sort) {
-            int cell = wall * PEOPLE + sort;
-            if (cell < 0 || cell >= worths.length) {
+            if (wall < 0 || wall >= worths.length || !isPerson(sort)) {
                 return 0;
             }
             freshen();
-            if (worths[cell] == UNKNOWN) {
-                int sum = 0;
-                int size = rows.sizeOf(wall);
-                for (int place = 0; place < size; place++) {
-                    describe(wall, rows.lawOn(wall, place), place, sort);
-                    sum += lawText.valueOf('v', facts);
-                }
-                worths[cell] = sum;
+            int known = slotOf(worths[wall], sort, BITS);
+            if (known != 0) {
+                return known - WORTH_SHIFT;
             }
-            return worths[cell];
+            int sum = 0;
+            int size = rows.sizeOf(wall);
+            for (int place = 0; place < size; place++) {
+                describe(wall, rows.lawOn(wall, place), place, sort);
+                sum += lawText.valueOf('v', facts);
+            }
+            worths[wall] = withSlot(worths[wall], sort, BITS, sum + WORTH_SHIFT);
+            return sum;
         }
 
         int valueOfOldest(int wall, int sort) {
@@ -1066,23 +1085,24 @@ public final class NineLaws {
 
         /** LAWS that a MAKER MAY make on a wall, as bits. */
         int mayOf(int wall, int maker) {
-            int cell = wall * PEOPLE + maker;
-            if (cell < 0 || cell >= mays.length) {
+            if (wall < 0 || wall >= mays.length || !isPerson(maker)) {
                 return 0;
             }
             freshen();
-            if (mays[cell] == UNKNOWN) {
-                int open = openTo(wall, maker);
-                int bits = 0;
-                for (int law = 0; law < laws; law++) {
-                    if ((open >> law & 1) == 1) {
-                        describe(wall, law, 0, maker);
-                        bits |= lawText.valueOf('m', facts) << law;
-                    }
-                }
-                mays[cell] = bits;
+            int known = slotOf(mays[wall], maker, BITS);
+            if (known != 0) {
+                return known - 1;
             }
-            return mays[cell];
+            int open = openTo(wall, maker);
+            int canMake = 0;
+            for (int law = 0; law < laws; law++) {
+                if ((open >> law & 1) == 1) {
+                    describe(wall, law, 0, maker);
+                    canMake |= lawText.valueOf('m', facts) << law;
+                }
+            }
+            mays[wall] = withSlot(mays[wall], maker, BITS, canMake + 1);
+            return canMake;
         }
 
         /** LAWS that no LAW that HOLDS keeps from this MAKER. */
@@ -1125,6 +1145,7 @@ public final class NineLaws {
         private static final int KEEP = 2;
         private static final int PUSH = 3;
         private static final int TOLD = 4;
+        private static final int LEAST = -1000000000;
 
         private final Rows rows;
         private final Town town;
@@ -1202,9 +1223,9 @@ public final class NineLaws {
                 }
             }
             int wanted = NO_LAW;
-            int most = kind == WANT ? town.worthOf(wall, maker) : UNKNOWN;
+            int most = kind == WANT ? town.worthOf(wall, maker) : LEAST;
             for (int law = 0; law < MOST_LAWS; law++) {
-                int worth = (canMake >> law & 1) == 1 ? town.worthOf(rows.behind(wall, law), maker) : UNKNOWN;
+                int worth = (canMake >> law & 1) == 1 ? town.worthOf(rows.behind(wall, law), maker) : LEAST;
                 if (worth > most) {
                     wanted = law;
                     most = worth;
@@ -1214,16 +1235,16 @@ public final class NineLaws {
         }
     }
 
-    /** MEAN: the days ahead of the ring, and the ring. */
+    /** MEAN: the days ahead of the ring, and the ring. A state is a wall and a PLACE, told as one number. */
     private static final class Ring {
+        private static final int MOST_STEPS = 1000000;
+
         private final Rows rows;
         private final Town town;
         private final Makers makers;
-        private final int[] firstDays = new int[Rows.ALL * MOST_TURNS];
         private int ahead;
         private int days = 1;
-        private int ringWall;
-        private int ringPlace;
+        private int firstState;
 
         Ring(Rows rows, Town town, Makers makers) {
             this.rows = rows;
@@ -1231,40 +1252,49 @@ public final class NineLaws {
             this.makers = makers;
         }
 
+        /** One waits, further on each time, while the other goes round; then two go at the ring's distance (Brent). */
         void find(int startWall, int startPlace) {
-            int length = rows.lengthOf(startWall);
-            Arrays.fill(firstDays, Rows.bareOf(length) * MOST_TURNS, Rows.bareOf(length + 1) * MOST_TURNS, UNKNOWN);
-            ahead = 0;
+            int start = startWall * MOST_TURNS + startPlace;
+            int waiting = start;
+            int going = stateAfter(start);
+            int patience = 1;
             days = 1;
-            ringWall = startWall;
-            ringPlace = startPlace;
-            for (int day = 0; day <= firstDays.length; day++) {
-                int cell = ringWall * MOST_TURNS + ringPlace;
-                if (cell < 0 || cell >= firstDays.length) {
-                    return;
+            for (int k = 0; k < MOST_STEPS && going != waiting; k++) {
+                if (days == patience) {
+                    waiting = going;
+                    patience *= 2;
+                    days = 0;
                 }
-                if (firstDays[cell] != UNKNOWN) {
-                    ahead = firstDays[cell];
-                    days = Math.max(1, day - ahead);
-                    return;
-                }
-                firstDays[cell] = day;
-                goOn();
+                going = stateAfter(going);
+                days++;
+            }
+            going = start;
+            for (int day = 0; day < days; day++) {
+                going = stateAfter(going);
+            }
+            firstState = start;
+            ahead = 0;
+            for (int k = 0; k < MOST_STEPS && going != firstState; k++) {
+                going = stateAfter(going);
+                firstState = stateAfter(firstState);
+                ahead++;
             }
         }
 
-        private void goOn() {
-            int law = makers.choice(makers.onTurn(ringPlace), ringWall);
-            ringWall = rows.behind(ringWall, law);
-            ringPlace = makers.placeAfter(ringPlace);
+        private int stateAfter(int state) {
+            int place = state % MOST_TURNS;
+            int wall = state / MOST_TURNS;
+            int law = makers.choice(makers.onTurn(place), wall);
+            return rows.behind(wall, law) * MOST_TURNS + makers.placeAfter(place);
         }
 
-        /** WORTH in the ring that was found: once round, back to where it was. */
+        /** WORTH in the ring that was found, once round. */
         int sumOf(int sort) {
             int sum = 0;
+            int state = firstState;
             for (int day = 0; day < days; day++) {
-                goOn();
-                sum += town.worthOf(ringWall, sort);
+                state = stateAfter(state);
+                sum += town.worthOf(state / MOST_TURNS, sort);
             }
             return sum;
         }
@@ -1275,8 +1305,14 @@ public final class NineLaws {
         private final Rows rows;
         private final Town town;
         private final Makers makers;
-        private final int[] picks = new int[Rows.ALL * MOST_LOOK];
-        private final int[] totals = new int[Rows.ALL * MOST_LOOK * PEOPLE];
+        private static final int PICK_BITS = 4;
+        private static final int TOTAL_BITS = 16;
+        private static final int TOTAL_SHIFT = 10000;
+
+        /** A slot for so many days left; in it 0 as long as it is not reckoned, else 1 more than the LAW. */
+        private final long[] picks = new long[Rows.ALL];
+        /** Of a wall with so many days left: a slot for each SORT. */
+        private final long[] totals = new long[Rows.ALL * MOST_LOOK];
         private final int[] made = new int[MOST_LOOK];
         private final int[] sums = new int[PEOPLE];
         private int lookers;
@@ -1319,44 +1355,42 @@ public final class NineLaws {
             askedLength = length;
             askedEndPlace = endPlace;
             lookers = newLookers;
-            Arrays.fill(picks, Rows.bareOf(length) * MOST_LOOK, Rows.bareOf(length + 1) * MOST_LOOK, UNKNOWN);
+            Arrays.fill(picks, Rows.bareOf(length), Rows.bareOf(length + 1), 0);
         }
 
         private void tell(int firstPick, int secondWall, int days) {
             made[0] = firstPick;
             int wall = secondWall;
             for (int day = 1; day < days && day < MOST_LOOK; day++) {
-                int cell = cellOf(wall, days - day);
-                made[day] = cell < 0 || cell >= picks.length ? NO_LAW : picks[cell];
+                made[day] = wall < 0 || wall >= picks.length ? NO_LAW : slotOf(picks[wall], days - day, PICK_BITS) - 1;
                 wall = rows.behind(wall, made[day]);
             }
         }
 
-        private static int cellOf(int wall, int left) {
-            return left < 0 || left >= MOST_LOOK ? NONE : wall * MOST_LOOK + left;
-        }
-
         private int totalOf(int wall, int left, int sort) {
-            int cell = cellOf(wall, left) * PEOPLE + sort;
-            return cell < 0 || cell >= totals.length ? 0 : totals[cell];
+            int cell = wall * MOST_LOOK + left;
+            return left < 0 || cell < 0 || cell >= totals.length ? 0 : slotOf(totals[cell], sort, TOTAL_BITS) - TOTAL_SHIFT;
         }
 
         /** Reckons what the day that ends with this wall and the days left behind it are worth together. */
         private void look(int wall, int place, int left) {
-            int cell = cellOf(wall, left);
-            if (cell < 0 || cell >= picks.length || picks[cell] != UNKNOWN) {
+            int cell = wall * MOST_LOOK + left;
+            if (left < 0 || left >= MOST_LOOK || wall < 0 || wall >= picks.length || cell >= totals.length) {
+                return;
+            }
+            if (slotOf(picks[wall], left, PICK_BITS) != 0) {
                 return;
             }
             int pick = left == 0 ? NO_LAW : pickOn(wall, place, left);
             int next = rows.behind(wall, pick);
             look(next, makers.placeAfter(place), left - 1);
+            long packed = 0;
             for (int sort = 0; sort < PEOPLE; sort++) {
-                int total = cell * PEOPLE + sort;
-                if (total < totals.length) {
-                    totals[total] = town.worthOf(wall, sort) + totalOf(next, left - 1, sort);
-                }
+                int total = town.worthOf(wall, sort) + totalOf(next, left - 1, sort);
+                packed = withSlot(packed, sort, TOTAL_BITS, total + TOTAL_SHIFT);
             }
-            picks[cell] = pick;
+            totals[cell] = packed;
+            picks[wall] = withSlot(picks[wall], left, PICK_BITS, pick + 1);
         }
 
         /** What is made today, so many days being left with this one. */
@@ -1386,20 +1420,26 @@ public final class NineLaws {
     }
 
     /**
-     * HOW SOON: a cell is a wall and a PLACE. Cells wait in the order in which they are come to, so that the first
-     * QUIET one has the least row of LAWS of those that are soonest.
+     * HOW SOON: what can be come to waits in the order in which it is come to, so that the first QUIET one has the
+     * least row of LAWS of those that are soonest.
      */
     private static final class Calm {
         private static final int MOST = Rows.ALL * MOST_TURNS;
+        private static final int BITS = 16;
+        private static final int WALL = 0;
+        private static final int PLACE = 1;
+        private static final int MADE = 2;
+        private static final int BEFORE = 3;
 
         private final Rows rows;
         private final Town town;
         private final Makers makers;
-        private final int[] waiting = new int[MOST];
-        private final int[] before = new int[MOST];
-        private final int[] made = new int[MOST];
+        /** A wall with a PLACE, what was made to come to it, and the index of what it was made on. */
+        private final long[] waiting = new long[MOST];
+        /** The PLACES with which a wall was come to, as bits. */
+        private final int[] seen = new int[Rows.ALL];
         private int found;
-        private int quietCell;
+        private int quietOne;
         private int days;
         private int askedEdition = NONE;
         private int askedWall;
@@ -1419,50 +1459,49 @@ public final class NineLaws {
             askedWall = from.wall;
             askedPlace = from.place;
             int length = rows.lengthOf(from.wall);
-            Arrays.fill(before, Rows.bareOf(length) * MOST_TURNS, Rows.bareOf(length + 1) * MOST_TURNS, UNKNOWN);
+            Arrays.fill(seen, Rows.bareOf(length), Rows.bareOf(length + 1), 0);
             found = 0;
-            quietCell = NONE;
-            comeTo(from.wall, from.place, NONE, NO_LAW);
-            for (int i = 0; i < found && i < MOST && quietCell < 0; i++) {
-                int wall = waiting[i] / MOST_TURNS;
-                int place = waiting[i] % MOST_TURNS;
+            quietOne = NONE;
+            comeTo(from.wall, from.place, NO_LAW, 0);
+            for (int i = 0; i < found && i < MOST && quietOne < 0; i++) {
+                int wall = slotOf(waiting[i], WALL, BITS);
+                int place = slotOf(waiting[i], PLACE, BITS);
                 int canMake = town.mayOf(wall, makers.onTurn(place));
                 int nextPlace = makers.placeAfter(place);
-                comeTo(wall, nextPlace, waiting[i], NO_LAW);
+                comeTo(wall, nextPlace, NO_LAW, i);
                 for (int law = 0; law < MOST_LAWS; law++) {
                     if ((canMake >> law & 1) == 1) {
-                        comeTo(rows.behind(wall, law), nextPlace, waiting[i], law);
+                        comeTo(rows.behind(wall, law), nextPlace, law, i);
                     }
                 }
             }
-            days = stepsToQuiet();
+            days = quietOne < 0 ? NONE : daysTo(quietOne);
         }
 
-        private void comeTo(int wall, int place, int from, int law) {
-            int cell = wall * MOST_TURNS + place;
-            if (quietCell >= 0 || cell < 0 || cell >= MOST || before[cell] != UNKNOWN) {
+        private void comeTo(int wall, int place, int law, int before) {
+            if (quietOne >= 0 || found < 0 || found >= MOST || wall < 0 || wall >= seen.length) {
                 return;
             }
-            before[cell] = from;
-            made[cell] = law;
+            if ((seen[wall] >> place & 1) == 1) {
+                return;
+            }
+            seen[wall] |= 1 << place;
             if (makers.quietOn(wall)) {
-                quietCell = cell;
+                quietOne = found;
             }
-            if (found >= 0 && found < MOST) {
-                waiting[found] = cell;
-                found++;
-            }
+            long one = withSlot(withSlot(0, WALL, BITS, wall), PLACE, BITS, place);
+            waiting[found] = withSlot(withSlot(one, MADE, BITS, law), BEFORE, BITS, before);
+            found++;
         }
 
-        /** NONE: there is no QUIET cell. */
-        private int stepsToQuiet() {
-            int steps = NONE;
-            int cell = quietCell;
-            for (int k = 0; k < MOST && cell >= 0 && cell < MOST; k++) {
-                cell = before[cell];
-                steps++;
+        private int daysTo(int one) {
+            int many = 0;
+            int i = one;
+            while (i > 0 && i < MOST && many < MOST) {
+                i = slotOf(waiting[i], BEFORE, BITS);
+                many++;
             }
-            return steps;
+            return many;
         }
 
         /** NONE: no such DAY. */
@@ -1470,11 +1509,11 @@ public final class NineLaws {
             if (day < 0 || day >= days) {
                 return NONE;
             }
-            int cell = quietCell;
-            for (int later = days - 1; later > day && cell >= 0 && cell < MOST; later--) {
-                cell = before[cell];
+            int one = quietOne;
+            for (int later = days - 1; later > day && one >= 0 && one < MOST; later--) {
+                one = slotOf(waiting[one], BEFORE, BITS);
             }
-            return cell >= 0 && cell < MOST ? made[cell] : NONE;
+            return one >= 0 && one < MOST ? slotOf(waiting[one], MADE, BITS) : NONE;
         }
     }
 
@@ -1483,7 +1522,10 @@ public final class NineLaws {
         private final Rows rows;
         private final Town town;
         private final Makers makers;
-        private final int[] spans = new int[Rows.ALL * MOST_HOLD];
+        private static final int BITS = 4;
+
+        /** A slot for so many days left; in it 0 as long as it is not reckoned, else 1 more than the days held. */
+        private final long[] spans = new long[Rows.ALL];
         private int wanted;
         private int friends;
 
@@ -1497,18 +1539,18 @@ public final class NineLaws {
             wanted = laws;
             friends = newFriends;
             int length = rows.lengthOf(from.wall);
-            Arrays.fill(spans, Rows.bareOf(length) * MOST_HOLD, Rows.bareOf(length + 1) * MOST_HOLD, UNKNOWN);
+            Arrays.fill(spans, Rows.bareOf(length), Rows.bareOf(length + 1), 0);
             return spanFrom(from.wall, from.place, MOST_HOLD);
         }
 
         /** Goes as deep as days are left. */
         private int spanFrom(int wall, int place, int left) {
-            int cell = wall * MOST_HOLD + left - 1;
-            if (left < 1 || cell < 0 || cell >= spans.length) {
+            if (left < 1 || left > MOST_HOLD || wall < 0 || wall >= spans.length) {
                 return 0;
             }
-            if (spans[cell] != UNKNOWN) {
-                return spans[cell];
+            int known = slotOf(spans[wall], left - 1, BITS);
+            if (known != 0) {
+                return known - 1;
             }
             int maker = makers.onTurn(place);
             boolean isFriend = isPerson(maker) && (friends >> maker & 1) == 1;
@@ -1522,7 +1564,7 @@ public final class NineLaws {
                     span = isFriend ? Math.max(span, other) : Math.min(span, other);
                 }
             }
-            spans[cell] = span;
+            spans[wall] = withSlot(spans[wall], left - 1, BITS, span + 1);
             return span;
         }
 

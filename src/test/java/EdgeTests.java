@@ -26,6 +26,7 @@ public final class EdgeTests extends Checks {
         longRing();
         bestDays();
         allDays();
+        mostAndLeastAhead();
         bestRows();
         quietRows();
         soonest();
@@ -610,6 +611,26 @@ public final class EdgeTests extends Checks {
         NineLaws no = new NineLaws();
         same("no LAWS", no.all(8, 3), 0);
         same("none", no.all(8, 17), 8);
+    }
+
+    private static void mostAndLeastAhead() {
+        about("BEST and ALL LOOK AHEAD by the most and the least that a ROW can be worth (-100 to 100 each)");
+        NineLaws x = town("v100(p=1|p=3);v0-100(1=1);m1(1=1)", 0, 0);
+        x.length(4);
+        rota(x, 0, 2);
+        makeAll(x, 0, 1, 0, 1);
+        for (int days = 1; days <= 8; days++) {
+            for (int sort = 0; sort < 4; sort++) {
+                int due = 400 * days * (sort % 2 == 1 ? 1 : -1);
+                same("all, SORT " + sort + ", " + days + " DAYS", x.all(days, sort), due);
+                same("best, SORT " + sort + ", " + days + " DAYS", x.best(sort, days, -1), due);
+                same("run, SORT " + sort + ", " + days + " DAYS", x.run(days, sort), due);
+            }
+        }
+        same("run, most", x.run(60, 3), 24000);
+        same("run, least", x.run(60, 0), -24000);
+        same("worth, most", x.worth(1), 400);
+        same("worth, least", x.worth(2), -400);
     }
 
     // ---- THE BEST ROW, QUIET, HELD, NUMBER ----

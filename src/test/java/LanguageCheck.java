@@ -1,11 +1,15 @@
 import java.io.IOException;
+import java.lang.reflect.Array;
 import java.lang.reflect.Constructor;
 import java.lang.reflect.Field;
 import java.lang.reflect.Method;
 import java.lang.reflect.Modifier;
 import java.nio.file.Files;
 import java.nio.file.Path;
+import java.util.ArrayList;
 import java.util.Arrays;
+import java.util.Collections;
+import java.util.IdentityHashMap;
 import java.util.List;
 import java.util.Set;
 import java.util.TreeSet;
@@ -18,6 +22,8 @@ public final class LanguageCheck {
     private static final int MOST_PARAMETERS = 7;
     private static final int MOST_FIELDS = 20;
     private static final int MOST_CLASSES = 13;
+    private static final int MOST_OBJECTS = 60;
+    private static final int MOST_ROOM = 110000;
     private static int wrong;
 
     private static final Set<String> FACE = new TreeSet<>(List.of(
@@ -31,7 +37,7 @@ public final class LanguageCheck {
 
     private LanguageCheck() { }
 
-    public static void main(String[] args) throws IOException {
+    public static void main(String[] args) throws IOException, IllegalAccessException {
         String source = Files.readString(Path.of("src/main/java/NineLaws.java"));
         String bare = withoutTexts(source);
         words(bare);
@@ -39,6 +45,8 @@ public final class LanguageCheck {
         methods(bare);
         face();
         members();
+        madeWhere(bare);
+        room();
         System.out.println(wrong == 0 ? "the language is kept to" : wrong + " places against the language");
         if (wrong != 0) {
             System.exit(1);
@@ -106,6 +114,46 @@ public final class LanguageCheck {
         }
     }
 
+    /** Only constructors make objects: no call costs a run more of its one room. */
+    private static void madeWhere(String bare) {
+        String constructor = bare.replaceAll("(?s).*\n    public NineLaws\\(\\) \\{\n(.*?)\n    \\}\n.*", "$1");
+        String rest = bare.replace(constructor, "");
+        for (String line : rest.split("\n")) {
+            if (line.contains("new ") && !line.matches(" +private final [\\w\\[\\]]+ \\w+ = new .*;")) {
+                say("makes an object: " + line.trim());
+            }
+        }
+    }
+
+    /** All runs' towns share one room: what one town takes of it. */
+    private static void room() throws IllegalAccessException {
+        Set<Object> seen = Collections.newSetFromMap(new IdentityHashMap<>());
+        List<Object> open = new ArrayList<>(List.of(new NineLaws()));
+        int room = 0;
+        while (!open.isEmpty()) {
+            Object one = open.remove(open.size() - 1);
+            if (!seen.add(one)) {
+                continue;
+            }
+            if (one.getClass().isArray()) {
+                room += Array.getLength(one);
+                continue;
+            }
+            for (Field field : one.getClass().getDeclaredFields()) {
+                if (!Modifier.isStatic(field.getModifiers())) {
+                    room++;
+                    field.setAccessible(true);
+                    if (!field.getType().isPrimitive()) {
+                        open.add(field.get(one));
+                    }
+                }
+            }
+        }
+        if (room > MOST_ROOM || seen.size() > MOST_OBJECTS) {
+            say("a town takes " + seen.size() + " objects and arrays, " + room + " fields and elements");
+        }
+    }
+
     private static String told(Method method) {
         StringBuilder all = new StringBuilder(method.getReturnType() + " " + method.getName() + "(");
         for (Class<?> parameter : method.getParameterTypes()) {
@@ -147,7 +195,7 @@ public final class LanguageCheck {
     }
 
     private static List<Class<?>> classes() {
-        List<Class<?>> all = new java.util.ArrayList<>(Arrays.asList(NineLaws.class.getDeclaredClasses()));
+        List<Class<?>> all = new ArrayList<>(Arrays.asList(NineLaws.class.getDeclaredClasses()));
         all.add(NineLaws.class);
         return all;
     }
