@@ -1369,7 +1369,10 @@ public final class NineLaws {
 
         private int totalOf(int wall, int left, int sort) {
             int cell = wall * MOST_LOOK + left;
-            return left < 0 || cell < 0 || cell >= totals.length ? 0 : slotOf(totals[cell], sort, TOTAL_BITS) - TOTAL_SHIFT;
+            if (left < 0 || cell < 0 || cell >= totals.length) {
+                return 0;
+            }
+            return slotOf(totals[cell], sort, TOTAL_BITS) - TOTAL_SHIFT;
         }
 
         /** Reckons what the day that ends with this wall and the days left behind it are worth together. */
